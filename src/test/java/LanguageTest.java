@@ -68,6 +68,37 @@ public final class LanguageTest {
         Check.equal("promise 4: ways anew", x.waysOf(0), 150);
         Check.equal("promise 4: an empty tape is a game", x.teach(), 0);
         Check.equal("promise 4: without tiles", x.tiles(), 0);
+        tilesAnew();
+        ordersAnew();
+    }
+
+    private static void tilesAnew() {
+        RingDomino x = Check.taught("board 4 by 3; tile a 1 1 1; tile b 1 1 1; fit a; fit b;");
+        x.playRounds(1);
+        Check.equal("promise 4: teach sides anew", Check.teach(x, "board 3 by 4; tile a 2 2 2; tile b 1 1 1;"), 0);
+        Check.equal("promise 4: columns of the second board", x.columns(), 3);
+        Check.equal("promise 4: rows of the second board", x.rows(), 4);
+        x.putTile(0, 0, 0);
+        Check.equal("promise 4: a tile of before lies no more", x.waysOf(1), 0);
+        Check.equal("promise 4: its open cells are forgotten", x.looksToProve(1), 2);
+        x.takeTile(0);
+        x.putTile(1, 4, 0);
+        Check.equal("promise 4: a's numbers of before are forgotten", x.waysOf(0), 0);
+        Check.equal("promise 4: no match of before", x.matchesOf(4), 0);
+    }
+
+    private static void ordersAnew() {
+        RingDomino x = Check.taught(A + "fit a;".repeat(16));
+        for (int n = 0; n < 9; n++) {
+            String text = A + "fit a when 1" + "+ 1".repeat(60) + " = 61; take a;" + "fit a;".repeat(14);
+            Check.equal("promise 4: as many orders anew " + n, Check.teach(x, text), 0);
+            Check.equal("promise 4: they are carried out " + n, x.playRounds(1), 3);
+        }
+        Check.equal("promise 4: sixteen orders anew", Check.teach(x, A + "take a;".repeat(15) + "fit a;"), 0);
+        Check.equal("promise 31: the last of sixteen is carried out", x.playRounds(1), 1);
+        Check.equal("promise 4: other orders anew", Check.teach(x, A + "take a; put a at 1, 1 turned 1;"), 0);
+        Check.equal("promise 4: only those are carried out", x.playRounds(2), 3);
+        Check.equal("promise 4: as they say", x.cellOf(0), 6);
     }
 
     private static void errorKeepsAll() {
@@ -215,6 +246,10 @@ public final class LanguageTest {
         String rest = ", 0 turned 0;";
         Check.good(put + "(".repeat(8) + "1" + ")".repeat(8) + rest);
         Check.error(put + "(".repeat(9) + "1" + ")".repeat(9) + rest, 1, put.length() + 8);
+        Check.good(put + "1, " + "(".repeat(8) + "1" + ")".repeat(8) + " turned 1;");
+        Check.error(put + "1, " + "(".repeat(9) + "1" + ")".repeat(9) + " turned 1;", 1, put.length() + 11);
+        Check.good(put + "1, 1 turned " + "-".repeat(8) + "1;");
+        Check.error(put + "1, 1 turned " + "-".repeat(9) + "1;", 1, put.length() + 20);
         Check.good(put + "-".repeat(8) + "1" + rest);
         Check.error(put + "-".repeat(9) + "1" + rest, 1, put.length() + 8);
         Check.good(put + "-(".repeat(4) + "1" + ")".repeat(4) + rest);

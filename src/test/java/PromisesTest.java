@@ -184,6 +184,13 @@ public final class PromisesTest {
             Check.equal("promise 28: edge " + edge, y.putTile(1, beside[edge], turn), edge / 2 + 1);
             Check.equal("promise 11: edge " + edge, y.matches(), 1);
         }
+        // On the greatest board the last cells have no more cells behind them.
+        RingDomino z = Check.taught("board 7 by 7; tile a 1 1 1; tile b 1 1 1;");
+        for (int cell : new int[] {48, 42, 6, 0}) {
+            z.putTile(0, cell, 0);
+            Check.equal("promise 25: beside corner " + cell, z.waysOf(1), cell == 0 || cell == 48 ? 12 : 18);
+            z.takeTile(0);
+        }
         // No cell goes on at the other side of the board.
         RingDomino x = Check.taught("board 3 by 3; tile a 1 1 1; tile b 1 1 1;");
         x.putTile(0, 5, 0);
@@ -266,6 +273,10 @@ public final class PromisesTest {
         Check.equal("promise 24: cell 17 turned by 5", x.edgeAgainst(2, 17, 5), 5);
         Check.equal("promise 24: cell 17 turned by 3", x.edgeAgainst(2, 17, 3), 4);
         Check.equal("promise 24: no tile beside", x.edgeAgainst(2, 0, 0), -1);
+        RingDomino y = Check.taught("tile a 0 0 0; tile b 1 0 0;");
+        y.putTile(0, 6, 0);
+        Check.equal("promise 24: 0 is another number than 1", y.edgeAgainst(1, 5, 0), 0);
+        Check.equal("promise 24: 0 and 0", y.edgeAgainst(1, 5, 2), -1);
         Check.equal("promise 24: all match", x.edgeAgainst(3, 17, 0), -1);
         Check.equal("promise 24: on a tile", x.edgeAgainst(2, 12, 0), 0);
         Check.equal("promise 24: a tile that lies", x.edgeAgainst(1, 13, 0), -1);
@@ -307,6 +318,9 @@ public final class PromisesTest {
         Check.equal("promise 27: five cells and one more are open", x.looksToProve(2), 6);
         x.takeTile(0);
         Check.equal("promise 27: cells beside 5", x.looksToProve(3), 24);
+        x.takeTile(1);
+        x.putTile(1, 1, 0);
+        Check.equal("promise 27: cell 0 counts, too", x.looksToProve(2), 4);
         StringBuilder full = new StringBuilder("board 3 by 3;");
         for (int n = 0; n < 10; n++) {
             full.append("tile t").append((char) ('a' + n)).append(" 1 1 1;");
@@ -373,6 +387,12 @@ public final class PromisesTest {
         // Edges 2 and 3 of cell 5 bear 2; cell 4 touches with edge 0, but it is beside cell 1 with edge 5, too.
         Check.equal("promise 30: a cell that matches both", x.fitTile(3), 8);
         Check.equal("promise 30: its turn", x.turnOf(3), 2);
+        RingDomino y = Check.taught("tile a 1 1 1; tile b 5 1 2; tile c 1 1 2;");
+        y.putTile(0, 12, 0);
+        Check.equal("promise 30: beside a", y.fitTile(2), 7);
+        // Edge 4 of cell 7 bears 2 and touches edge 1 of cell 2, where b bears 2 turned by 2 or 3.
+        Check.equal("promise 30: beside c", y.fitTile(1), 2);
+        Check.equal("promise 30: turned by 2", y.turnOf(1), 2);
     }
 
     private static void playRounds() {
@@ -479,6 +499,9 @@ public final class PromisesTest {
         sum("(2 + 3) * 4", 20);
         sum("10 - 3 - 2", 5);
         sum("2 - 3", -1);
+        sum("10 + 3 - 2", 11);
+        sum("10 - 3 + 2", 9);
+        sum("10 / 3 * 2 / 4 - 1 + 7 - 2", 5);
         sum("100 / 7 / 2", 7);
         sum("100 / 7 * 2", 28);
         sum("7 / 2", 3);
@@ -583,6 +606,12 @@ public final class PromisesTest {
         Check.equal("promise 34: twice 3", y.bestCell(3), 8);
         Check.equal("promise 36: d", y.bestTile(), 3);
         Check.equal("promise 34: nothing is changed", y.digest(), digest);
+        RingDomino w = Check.taught("board 3 by 3; tile a 1 1 1; tile b 1 1 1; tile c 1 2 3;");
+        w.putTile(0, 5, 0);
+        w.putTile(1, 2, 0);
+        // Only cell 4 is beside both, with its edges 0 and 5.
+        Check.equal("promise 34: beside both", w.bestCell(2), 4);
+        Check.equal("promise 35: turned the most", w.bestTurn(2), 5);
         RingDomino z = Check.taught("tile a 4 5 6; tile b 5 7 4;");
         z.putTile(0, 12, 0);
         // 5 at cell 11 (edge 0) is more than 4 at cell 13; b has it there turned by 0 and by 5.
@@ -614,6 +643,8 @@ public final class PromisesTest {
         for (int n = 0; n <= 6; n++) {
             RingDomino x = ring(n);
             Check.equal("promise 38: of " + n, x.digest(), reckoned(x));
+            x.playRounds(n + 1);
+            Check.equal("promise 38: of " + n + " behind rounds", x.digest(), reckoned(x));
         }
     }
 
