@@ -962,7 +962,8 @@ public final class RingDomino {
         private final int[] keptCells = new int[MOST_TILES];
         private final int[] keptTurns = new int[MOST_TILES];
         private final int[] queue = new int[MOST_CELLS];
-        private final boolean[] reached = new boolean[MOST_CELLS];
+        /** For each cell its group, counted from 1, as the groups are counted; 0 without one. */
+        private final int[] groupOf = new int[MOST_CELLS];
 
         void begin(Program program) {
             columns = program.columns;
@@ -1212,26 +1213,26 @@ public final class RingDomino {
         }
 
         int countGroups() {
-            Arrays.fill(reached, false);
+            Arrays.fill(groupOf, 0);
             int groups = 0;
             for (int cell = 0; cell < cellCount; cell++) {
-                if (tileOn[cell] >= 0 && !reached[cell]) {
+                if (tileOn[cell] >= 0 && groupOf[cell] == 0) {
                     groups++;
-                    reachFrom(cell);
+                    markGroup(cell, groups);
                 }
             }
             return groups;
         }
 
-        private void reachFrom(int start) {
+        private void markGroup(int start, int group) {
             queue[0] = start;
-            reached[start] = true;
+            groupOf[start] = group;
             int length = 1;
             for (int next = 0; next < length && next < cellCount; next++) {
                 for (int edge = 0; edge < EDGES; edge++) {
                     int other = beside[queue[next] * EDGES + edge];
-                    if (other >= 0 && tileOn[other] >= 0 && !reached[other] && length < cellCount) {
-                        reached[other] = true;
+                    if (other >= 0 && tileOn[other] >= 0 && groupOf[other] == 0 && length < cellCount) {
+                        groupOf[other] = group;
                         queue[length] = other;
                         length++;
                     }

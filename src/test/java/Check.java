@@ -1,11 +1,30 @@
+import java.io.IOException;
 import java.nio.charset.StandardCharsets;
+import java.nio.file.Files;
+import java.nio.file.Path;
 
 /** Counts the checks of one test and helps to put texts on the tape. */
 final class Check {
     private static int passed = 0;
     private static int failed = 0;
+    private static String sentence = "";
+    private static final String DOCUMENT = document();
 
     private Check() {
+    }
+
+    private static String document() {
+        try {
+            return Files.readString(Path.of("../shared/DOC.md")).replaceAll("\\s+", " ");
+        } catch (IOException e) {
+            return "";
+        }
+    }
+
+    /** Names the sentence of the document that the checks behind it are about. */
+    static void sentence(String words) {
+        sentence = "\"" + words + "\": ";
+        count(DOCUMENT.isEmpty() || DOCUMENT.contains(words.replaceAll("\\s+", " ")), "the document does not say so");
     }
 
     static void equal(String what, long got, long due) {
@@ -51,7 +70,7 @@ final class Check {
             passed++;
         } else {
             failed++;
-            System.out.println(message);
+            System.out.println(sentence + message);
         }
     }
 
@@ -100,5 +119,11 @@ final class Check {
 
     static void good(String text) {
         error(text, 0, -1);
+    }
+
+    /** Checks how long the tape is; trim to all of it changes nothing. */
+    static void tapeHolds(RingDomino x, int bytes) {
+        illegalArgument("trim beyond " + bytes + " bytes", () -> x.trim(bytes + 1));
+        equal("trim to all " + bytes + " bytes", x.trim(bytes), bytes);
     }
 }

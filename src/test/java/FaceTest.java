@@ -111,6 +111,21 @@ public final class FaceTest {
         }
     }
 
+    /** Rule 4: only what the language lists, and Arrays over arrays of numbers alone. */
+    private static void library(String code) {
+        List<String> listed = List.of("Arrays.fill", "Math.max", "Math.min", "Math.floorMod", "Integer.bitCount",
+                "System.arraycopy");
+        Matcher calls = Pattern.compile("\\b(Arrays|Math|Integer|Long|System|String|List)\\.\\w+").matcher(code);
+        while (calls.find()) {
+            Check.holds("the language lists " + calls.group(), listed.contains(calls.group()));
+        }
+        Matcher filled = Pattern.compile("Arrays\\.fill\\((\\w+)").matcher(code);
+        while (filled.find()) {
+            Check.holds(filled.group(1) + " is an array of numbers",
+                    Pattern.compile("\\bint\\[\\] " + filled.group(1) + "\\b").matcher(code).find());
+        }
+    }
+
     private static void source(String source) {
         String code = source.replaceAll("(?s)/\\*.*?\\*/", "").replaceAll("//[^\n]*", "")
                 .replaceAll("\"[^\"\n]*\"", "\"\"");
@@ -125,6 +140,7 @@ public final class FaceTest {
         for (String sign : new String[] {"->", "::", "Exact(", "static {"}) {
             Check.fails("the sign " + sign, code.contains(sign));
         }
+        library(code);
         Matcher thrown = Pattern.compile("throw new (\\w+)").matcher(code);
         while (thrown.find()) {
             Check.holds("throw of " + thrown.group(1), List.of("IllegalStateException", "IllegalArgumentException",

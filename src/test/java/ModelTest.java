@@ -30,6 +30,13 @@ public final class ModelTest {
         for (int n = 0; n < 1500; n++) {
             teach(n, spoilt(deepGame()));
         }
+        eachTokenInEachPlace("board 4 by 5 ; tile a 1 2 3 ; tile b 9 0 9 ; put a at 1 + 2 - 3 , ( 4 * 5 ) / 6 turned - ways"
+                + " of a when not on a and [ fits b or 1 < 2 ] ; take a when round > placed or matches >= points ; fit b when"
+                + " rings <= free and min ( 1 , 2 ) = max ( 3 , 4 ) ; put b at 0 , 0 turned 0 ; fit a ;");
+        eachTokenInEachPlace("tile a 1 2 3 ; fit a when not [ not [ [ not [ not fits a or 1 < - 2 ] and - 1 > ( 2 ) ] or 1 = - (2 )"
+                + " ] and - - ( 1 ) >= min ( 2 , 3 ) ] or - - - - - - - - 1 <= 1 and ( ( ( ( ( ( ( ( 1 ) ) ) ) ) ) ) ) < 1 ;");
+        eachTokenInEachPlace("tile a 1 2 3 ; put a at min ( 1 , max ( 2 , min ( 3 , max ( 4 , - ( - ( free ) ) ) ) ) ) , 2 turned"
+                + " ( ways of a * ( round / ( 3 - ( 4 + ( 5 ) ) ) ) ) ; take a when [ [ [ [ [ [ [ [ 1 < 2 or 3 = 4 ] ] ] ] ] ] ] ] ;");
         Check.close("ModelTest");
     }
 
@@ -234,6 +241,25 @@ public final class ModelTest {
 
     // ---- the comparisons
 
+    /** Puts each kind of token behind each beginning of a game that has no error. */
+    private static void eachTokenInEachPlace(String text) {
+        List<Token> tokens = Token.cut(text);
+        for (int place = 0; place <= tokens.size(); place++) {
+            Set<String> allowed = Rules.kindsBehind(tokens.subList(0, place));
+            String start = place < tokens.size() ? text.substring(0, tokens.get(place).start) : text + " ";
+            for (String word : WORDS) {
+                Token token = Token.cut(word).get(0);
+                String whole = start + word;
+                RingDomino x = new RingDomino();
+                boolean good = allowed.contains(token.kind);
+                // What is right so far ends a game with a semicolon, and else it goes on behind the end of the tape.
+                boolean ends = good && word.equals(";");
+                Check.equal("teach of " + whole, Check.teach(x, whole), ends ? 0 : 1);
+                Check.equal("errorAt of " + whole, x.errorAt(), ends ? -1 : good ? whole.length() : start.length());
+            }
+        }
+    }
+
     /** The object that is taught text behind text, and what it has to know; 512 calls are enough for four texts. */
     private static RingDomino pupil = new RingDomino();
     private static Model known = new Model();
@@ -430,6 +456,34 @@ public final class ModelTest {
             }
         }
 
+        /** The kinds of token that can stand behind the beginning of a game. */
+        static Set<String> kindsBehind(List<Token> tokens) {
+            List<List<Item>> sets = new ArrayList<>();
+            sets.add(new ArrayList<>(List.of(new Item("GAME", RULES.get("GAME").get(0), 0, 0))));
+            for (int at = 0; at < tokens.size(); at++) {
+                close(sets, at);
+                sets.add(behind(sets.get(at), tokens.get(at).kind));
+            }
+            close(sets, tokens.size());
+            Set<String> kinds = new HashSet<>();
+            for (Item item : sets.get(tokens.size())) {
+                if (item.dot < item.body.length) {
+                    kinds.add(item.body[item.dot]);
+                }
+            }
+            return kinds;
+        }
+
+        private static List<Item> behind(List<Item> set, String kind) {
+            List<Item> next = new ArrayList<>();
+            for (Item item : set) {
+                if (item.dot < item.body.length && item.body[item.dot].equals(kind)) {
+                    next.add(new Item(item.head, item.body, item.dot + 1, item.origin));
+                }
+            }
+            return next;
+        }
+
         /** The index of the first token with which the tokens so far begin no game; their number if the end does. */
         static int firstWrong(List<Token> tokens) {
             List<List<Item>> sets = new ArrayList<>();
@@ -447,12 +501,7 @@ public final class ModelTest {
                     }
                     return at;
                 }
-                List<Item> next = new ArrayList<>();
-                for (Item item : set) {
-                    if (at < 400 && item.dot < item.body.length && item.body[item.dot].equals(tokens.get(at).kind)) {
-                        next.add(new Item(item.head, item.body, item.dot + 1, item.origin));
-                    }
-                }
+                List<Item> next = at < 400 ? behind(set, tokens.get(at).kind) : List.of();
                 if (next.isEmpty()) {
                     return at;
                 }
