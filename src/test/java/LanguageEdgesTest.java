@@ -30,6 +30,10 @@ public final class LanguageEdgesTest {
         emptyGame();
         boardIsFirst();
         nothingOrMore();
+        partsOfLines();
+        partsOfOrders();
+        partsOfTests();
+        partsOfSums();
         endOfTheTape();
         wrongByteInEachPlace();
         depthOfSums();
@@ -358,6 +362,114 @@ public final class LanguageEdgesTest {
         Check.error(A + "fit a when on a and;", 1, 32);
         Check.error(A + "fit a when on a or;", 1, 31);
         Check.error(A + "fit a when on a and or on a;", 1, 33);
+    }
+
+    private static void partsOfLines() {
+        Check.sentence("line = \"tile\" name number number number | order [ \"when\" test ]");
+        Check.error("tile;", 1, 4);
+        Check.error("tile a;", 1, 6);
+        Check.error("tile a 1;", 1, 8);
+        Check.error("tile a 1 2;", 1, 10);
+        Check.good("tile a 1 2 3;");
+        Check.error("tile a 1 2 3 4;", 1, 13);
+        Check.error("tile a b 1 2 3;", 1, 7);
+        Check.error("tile 1 2 3;", 1, 5);
+        Check.error("tile a -1 2 3;", 1, 7);
+        Check.error("tile a 1,2,3;", 1, 8);
+        Check.error("tile a (1) 2 3;", 1, 7);
+        Check.error(A + "take a when;", 1, 24);
+        Check.error(A + "take a on a;", 1, 20);
+        Check.error("board;", 1, 5);
+        Check.error("board 3;", 1, 7);
+        Check.error("board 3 by;", 1, 10);
+        Check.error("board 3 by 3 3;", 1, 13);
+        Check.error("board 3 by -3;", 1, 11);
+    }
+
+    private static void partsOfOrders() {
+        Check.sentence("order = \"put\" name \"at\" sum \",\" sum \"turned\" sum | \"take\" name | \"fit\" name");
+        Check.error(A + "take;", 1, 17);
+        Check.error(A + "fit;", 1, 16);
+        Check.error(A + "take a a;", 1, 20);
+        Check.error(A + "fit a at 1,1;", 1, 19);
+        Check.error(A + "put;", 1, 16);
+        Check.error(A + "put a;", 1, 18);
+        Check.error(A + "put a at;", 1, 21);
+        Check.error(A + "put a at 1;", 1, 23);
+        Check.error(A + "put a at 1,;", 1, 24);
+        Check.error(A + "put a at 1,2;", 1, 25);
+        Check.error(A + "put a at 1,2 turned;", 1, 32);
+        Check.good(A + "put a at 1,2 turned 3;");
+        Check.error(A + "put a at 1,2 turned 3,;", 1, 34);
+        Check.error(A + "put a at 1,2,3 turned 3;", 1, 25);
+        Check.error(A + "put a at 1 turned 3;", 1, 24);
+        Check.error(A + "put a turned 3;", 1, 19);
+        Check.error(A + "put 1 at 1,2 turned 3;", 1, 17);
+    }
+
+    private static void partsOfTests() {
+        Check.sentence("single = \"not\" single | \"[\" test \"]\" | \"on\" name | \"fits\" name |");
+        String fit = A + "fit a when ";
+        int at = fit.length();
+        for (String test : new String[] {"on a", "fits a", "not on a", "[on a]", "not [fits a]", "[not fits a]", "1<2",
+            "1>2", "1=2", "1<=2", "1>=2", "[[1=2]]", "not not 1=2", "[on a or 1<2] and not [fits a]"}) {
+            Check.good(fit + test + ";");
+            Check.error(fit + test + "]", 1, at + test.length());
+            Check.error(fit + "[" + test + ";", 1, at + 1 + test.length());
+            Check.error(fit + test + ")", 1, at + test.length());
+            Check.error(fit + test + " on a", 1, at + test.length() + 1);
+            Check.error(fit + test + "<1", 1, at + test.length());
+            Check.error(fit + test + " and;", 1, at + test.length() + 4);
+            Check.error(fit + test + " or;", 1, at + test.length() + 3);
+        }
+        Check.error(fit + "on;", 1, at + 2);
+        Check.error(fit + "fits;", 1, at + 4);
+        Check.error(fit + "on [a];", 1, at + 3);
+        Check.error(fit + "[];", 1, at + 1);
+        Check.error(fit + "not;", 1, at + 3);
+        Check.error(fit + "a;", 1, at);
+        Check.error(fit + "1;", 1, at + 1);
+        Check.error(fit + "1<;", 1, at + 2);
+        Check.error(fit + "<1;", 1, at);
+        Check.error(fit + "1<2<3;", 1, at + 3);
+        Check.error(fit + "1=on a;", 1, at + 2);
+        Check.error(fit + "(on a);", 1, at + 1);
+        Check.error(fit + "(1<2);", 1, at + 2);
+        Check.error(fit + "[1]<2;", 1, at + 2);
+    }
+
+    private static void partsOfSums() {
+        Check.sentence("value = number | \"round\" | \"placed\" | \"matches\" | \"points\" | \"rings\" | \"free\" |"
+                + " \"ways\" \"of\" name | \"-\" value | \"(\" sum \")\" | ( \"min\" | \"max\" ) \"(\" sum \",\" sum \")\"");
+        for (String[] place : SUMS) {
+            int at = place[0].length();
+            // A blank ahead of "turned" is no token.
+            int next = place[1].startsWith(" ") ? 1 : 0;
+            for (String value : new String[] {"1", "round", "placed", "matches", "points", "rings", "free", "ways of a", "-1",
+                "(1)", "min(1,2)", "max(round,free)", "-(1)", "--1", "(1+2)", "min(1+2,-3)", "-ways of a"}) {
+                Check.good(place[0] + value + place[1]);
+                Check.good(place[0] + value + "+" + value + "-" + value + "*" + value + "/" + value + place[1]);
+                Check.error(place[0] + "(" + value + place[1], 1, at + 1 + value.length() + next);
+                Check.error(place[0] + value + ")", 1, at + value.length());
+                Check.error(place[0] + value + " 1", 1, at + value.length() + 1);
+                Check.error(place[0] + value + "(", 1, at + value.length());
+                Check.error(place[0] + value + "+" + place[1], 1, at + value.length() + 1 + next);
+                Check.error(place[0] + "min(" + value + ")", 1, at + 4 + value.length());
+                Check.error(place[0] + "max(" + value + ",1,", 1, at + 6 + value.length());
+            }
+            Check.error(place[0] + "()", 1, at + 1);
+            Check.error(place[0] + "+1", 1, at);
+            Check.error(place[0] + "-+1", 1, at + 1);
+            Check.error(place[0] + "min 1", 1, at + 4);
+            Check.error(place[0] + "min()", 1, at + 4);
+            Check.error(place[0] + "max(1,)", 1, at + 6);
+            Check.error(place[0] + "ways a", 1, at + 5);
+            Check.error(place[0] + "ways of 1", 1, at + 8);
+            Check.error(place[0] + "ways of (a)", 1, at + 8);
+            Check.error(place[0] + "a", 1, at);
+            Check.error(place[0] + "1 a", 1, at + 2);
+            Check.error(place[0] + "of a", 1, at);
+        }
     }
 
     /** A game in which each kind of token stands. */

@@ -30,6 +30,8 @@ public final class PromiseEdgesTest {
         firstNamedException();
         throwsChangeNothing();
         roundsThatAreNot();
+        countsFromLeastToMost();
+        roundsGone();
         groups();
         tileAt();
         numberAt();
@@ -39,6 +41,7 @@ public final class PromiseEdgesTest {
         edgeAgainst();
         waysOf();
         looksToProve();
+        pairsToLookAt();
         putTile();
         takeTile();
         fitTile();
@@ -369,6 +372,55 @@ public final class PromiseEdgesTest {
 
     // ---- the game and its cells
 
+    private static void countsFromLeastToMost() {
+        Check.sentence("Returns how many tiles lie on the board.");
+        RingDomino x = Check.taught("board 4 by 4;" + tiles(16, "9 9 9"));
+        Check.equal("all tiles", x.tiles(), 16);
+        // In a row each tile matches the one ahead of it; below the first row two more, but for the last in its row.
+        int matches = 0;
+        for (int cell = 0; cell < 16; cell++) {
+            Check.equal("placedTiles", x.placedTiles(), cell);
+            int more = (cell % 4 > 0 ? 1 : 0) + (cell >= 4 ? 1 : 0) + (cell >= 4 && cell % 4 < 3 ? 1 : 0);
+            // With cell 9 the ring around 5 is closed, with 10 the one around 6, and so on.
+            int rings = cell == 9 || cell == 10 || cell == 13 || cell == 14 ? 1 : 0;
+            Check.equal("points of " + cell, x.putTile(cell, cell, 0), 9 * more + 10 * rings);
+            matches += more;
+            Check.equal("matches with " + cell, x.matches(), matches);
+        }
+        Check.equal("a full board", x.placedTiles(), 16);
+        Check.equal("the most matches", x.matches(), 33);
+        Check.equal("the most points", x.points(), 33 * 9 + 40);
+        Check.equal("the most rings", x.rings(), 4);
+        Check.equal("the mean", x.meanMatch(), 9.0);
+        int left = x.points();
+        for (int cell = 0; cell < 16; cell++) {
+            left -= x.takeTile(cell);
+            Check.equal("points left", x.points(), left);
+            Check.equal("tiles left", x.placedTiles(), 15 - cell);
+        }
+        Check.equal("no points left", left, 0);
+        Check.equal("no matches left", x.matches(), 0);
+        Check.equal("no rings left", x.rings(), 0);
+    }
+
+    private static void roundsGone() {
+        Check.sentence("Returns how many rounds went by.");
+        RingDomino x = Check.taught("tile a 1 1 1;fit a;");
+        Check.equal("none", x.rounds(), 0);
+        x.fitTile(0);
+        x.pointsAfter(20);
+        x.roundsUntilRing();
+        Check.equal("none by hand, and none that would be", x.rounds(), 0);
+        x.playRounds(1);
+        Check.equal("one", x.rounds(), 1);
+        x.playRounds(20);
+        Check.equal("twenty more", x.rounds(), 21);
+        Check.equal("an error", Check.teach(x, "?"), 1);
+        Check.equal("the rounds stay", x.rounds(), 21);
+        Check.equal("a new game", x.teach(), 0);
+        Check.equal("the rounds are none", x.rounds(), 0);
+    }
+
     private static void groups() {
         Check.sentence("how many groups of tiles there are, each as great as can be, in which one comes from each to each other"
                 + " one by matches.");
@@ -555,6 +607,19 @@ public final class PromiseEdgesTest {
         Check.illegalState("one cell is free", () -> full.looksToProve(9));
         full.fitTile(8);
         Check.equal("no cell is free", full.looksToProve(9), 0);
+    }
+
+    private static void pairsToLookAt() {
+        Check.sentence("how many pairs of a cell without a tile, beside one with a tile, and of a way to turn it");
+        RingDomino x = Check.taught("board 7 by 7;" + tiles(7, "1 1 1") + "tile x 7 7 7;tile y 7 7 8;");
+        int[] cells = {24, 25, 32, 31, 30, 23, 17};
+        // A cell that is beside several tiles counts once, and a cell with a tile does not count.
+        int[] due = {6, 8, 10, 10, 11, 12, 13};
+        for (int n = 0; n < 7; n++) {
+            x.putTile(n, cells[n], 0);
+            Check.equal("open cells of " + (n + 1), x.looksToProve(7), due[n]);
+            Check.equal("six ways each", x.looksToProve(8), 6 * due[n]);
+        }
     }
 
     // ---- by hand
