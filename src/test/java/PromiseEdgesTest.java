@@ -561,6 +561,18 @@ public final class PromiseEdgesTest {
         Check.equal("no tile beside the cell", y.edgeAgainst(1, 0, 4), -1);
         Check.equal("the cell of the tile itself", y.edgeAgainst(0, 12, 0), -1);
         Check.equal("a cell with a tile, none beside it", y.edgeAgainst(1, 12, 0), -1);
+        // It does not matter whether the tile lies somewhere, not even if it is the one beside the cell.
+        RingDomino z = Check.taught("tile a 1 2 3;tile b 1 1 1;");
+        z.putTile(0, 12, 0);
+        int[] due = {3, 3, -1, -1, 3, 3};
+        for (int turn = 0; turn < 6; turn++) {
+            Check.equal("a beside itself, turned by " + turn, z.edgeAgainst(0, 13, turn), due[turn]);
+        }
+        z.putTile(1, 13, 0);
+        for (int turn = 0; turn < 6; turn++) {
+            Check.equal("a on the other side of b, turned by " + turn, z.edgeAgainst(0, 14, turn), due[turn]);
+            Check.equal("a on a cell with a tile, turned by " + turn, z.edgeAgainst(0, 13, turn), due[turn]);
+        }
     }
 
     private static void waysOf() {
