@@ -15,10 +15,10 @@ public final class ModelTest {
     private static long seed = 20261119;
 
     public static void main(String[] args) {
-        for (int n = 0; n < 300; n++) {
+        for (int n = 0; n < 700; n++) {
             play(n, game());
         }
-        for (int n = 0; n < 100; n++) {
+        for (int n = 0; n < 250; n++) {
             play(n, ringGame());
         }
         for (int n = 0; n < 2500; n++) {
@@ -285,10 +285,11 @@ public final class ModelTest {
         Model model = new Model();
         model.teach(text);
         Check.equal("game " + n + ": teach of " + text, Check.teach(x, text), model.error);
-        for (int call = 0; call < 60 && model.error == 0; call++) {
+        // With up to 110 calls ahead, 8 for each change and 43 for each comparison these stay below 512.
+        for (int call = 0; call < 24 && model.error == 0; call++) {
             String what = "game " + n + ", call " + call + ", of " + text + ": ";
             change(what, x, model);
-            if (call % 4 == 0) {
+            if (call % 6 == 5) {
                 compare(what, x, model);
             }
         }

@@ -33,6 +33,9 @@ public final class PromiseEdgesTest {
         countsFromLeastToMost();
         roundsGone();
         groups();
+        groupsInLines();
+        tileAtEachCell();
+        allTilesStay();
         tileAt();
         numberAt();
         matchesOf();
@@ -116,7 +119,7 @@ public final class PromiseEdgesTest {
         }
         Check.equal("call 512", x.rounds(), 507 * 20);
         RingDomino y = new RingDomino();
-        for (int call = 1; call < 512; call += 2) {
+        for (int call = 1; call < 511; call += 2) {
             Check.equal("call " + call, y.feed(0x74696c65, 0x20612031, 0x20322033, 0x3b202020, 0x20202020), 20);
             Check.equal("call " + (call + 1), y.teach(), 0);
         }
@@ -458,6 +461,72 @@ public final class PromiseEdgesTest {
         Check.equal("two halves are two", ring.groups(), 2);
         ring.putTile(6, 4, 0);
         Check.equal("the midst makes them one", ring.groups(), 1);
+    }
+
+    /** Tiles in lines, in which each edge is needed to come from the smallest cell to the end. */
+    private static void groupsInLines() {
+        Check.sentence("in which one comes from each to each other one by matches.");
+        int[][] lines = {{0, 1, 2, 3, 4, 5, 6}, {0, 7, 14, 21, 28, 35, 42}, {6, 12, 18, 24, 30, 36, 42},
+            {3, 10, 17, 16, 15, 14}, {0, 7, 14, 21, 22, 23, 16, 9}, {2, 8, 14, 21, 22, 16, 10, 4}};
+        for (int[] line : lines) {
+            RingDomino x = Check.taught("board 7 by 7;" + tiles(16, "3 3 3"));
+            for (int n = 0; n < line.length; n++) {
+                x.putTile(n, line[n], n % 6);
+                Check.equal("a line up to cell " + line[n], x.groups(), 1);
+            }
+            for (int n = 1; n < line.length - 1; n++) {
+                x.takeTile(n);
+                Check.equal("without cell " + line[n], x.groups(), touch(line[n - 1], line[n + 1]) ? 1 : 2);
+                x.putTile(n, line[n], 0);
+            }
+        }
+    }
+
+    /** Every call that looks at all cells, with a tile at each cell of the least and of the greatest board. */
+    private static void tileAtEachCell() {
+        Check.sentence("for each cell its tile (-1 without one), matchesOf(), isRing(); for each tile how much it is turned"
+                + " (-1 if it lies nowhere), waysOf(), isLeftover() (all in their order).");
+        for (int side : new int[] {3, 7}) {
+            for (int cell = 0; cell < side * side; cell++) {
+                RingDomino x = Check.taught("board " + side + " by " + side + ";tile a 4 4 4;tile b 4 4 5;");
+                x.putTile(0, cell, cell % 6);
+                String what = "a at " + cell + " of " + side + " by " + side;
+                Check.equal(what + ": groups", x.groups(), 1);
+                Check.equal(what + ": digest", x.digest(), reckoned(x));
+                int beside = x.fitTile(1);
+                Check.equal(what + ": groups with b at " + beside, x.groups(), 1);
+                Check.equal(what + ": matches with b", x.matchesOf(cell), 1);
+                Check.equal(what + ": the last cell's tile", x.hasTile(side * side - 1) ? 1 : 0,
+                        Math.max(cell, beside) == side * side - 1 ? 1 : 0);
+            }
+        }
+    }
+
+    /** Whether two cells of a board with seven columns are beside each other. */
+    private static boolean touch(int cell, int other) {
+        int columns = other % 7 - cell % 7;
+        int rows = other / 7 - cell / 7;
+        return Math.abs(columns) <= 1 && Math.abs(rows) <= 1 && columns != rows;
+    }
+
+    private static void allTilesStay() {
+        Check.sentence("if nothing is done by hand (nothing is changed).");
+        RingDomino x = Check.taught("board 4 by 4;" + tiles(16, "2 2 2") + "take ta when round=0;take tp when round=1;");
+        for (int n = 0; n < 16; n++) {
+            x.putTile(n, n, n % 6);
+        }
+        Check.equal("points now", x.points(), 106);
+        Check.equal("without the first", x.pointsAfter(1), 102);
+        Check.equal("without the first and the last", x.pointsAfter(2), 98);
+        Check.equal("twenty rounds", x.pointsAfter(20), 98);
+        Check.equal("a ring now", x.roundsUntilRing(), 0);
+        for (int n = 0; n < 16; n++) {
+            Check.equal("tile " + n + " lies where it lay", x.cellOf(n), n);
+            Check.equal("tile " + n + " is turned as it was", x.turnOf(n), n % 6);
+        }
+        Check.equal("points again", x.points(), 106);
+        Check.equal("no round", x.rounds(), 0);
+        Check.equal("then both are taken", x.playRounds(2), 2);
     }
 
     private static void tileAt() {
@@ -938,18 +1007,26 @@ public final class PromiseEdgesTest {
         for (String game : games) {
             RingDomino x = Check.taught(game);
             Check.equal("at first, " + game, x.digest(), reckoned(x));
-            for (int n = 0; n < x.tiles(); n++) {
-                if (x.waysOf(n) > 0) {
-                    x.putTile(n, x.bestCell(n), x.bestTurn(n));
-                }
+            RingDomino full = filled(game);
+            Check.equal("as full as can be, " + game, full.digest(), reckoned(full));
+            RingDomino later = filled(game);
+            later.playRounds(20);
+            if (later.tiles() > 1) {
+                later.takeTile(1);
             }
-            Check.equal("as full as can be, " + game, x.digest(), reckoned(x));
-            x.playRounds(20);
-            if (x.tiles() > 1) {
-                x.takeTile(1);
-            }
-            Check.equal("with one taken, " + game, x.digest(), reckoned(x));
+            Check.equal("with one taken, " + game, later.digest(), reckoned(later));
         }
+    }
+
+    private static RingDomino filled(String game) {
+        RingDomino x = Check.taught(game);
+        int tiles = x.tiles();
+        for (int n = 0; n < tiles; n++) {
+            if (x.waysOf(n) > 0) {
+                x.putTile(n, x.bestCell(n), x.bestTurn(n));
+            }
+        }
+        return x;
     }
 
     private static long reckoned(RingDomino x) {
@@ -959,12 +1036,13 @@ public final class PromiseEdgesTest {
         for (int head : heads) {
             numbers.add((long) head);
         }
-        for (int cell = 0; cell < x.columns() * x.rows(); cell++) {
+        // No object may be called more than 512 times.
+        for (int cell = 0; cell < heads[0] * heads[1]; cell++) {
             numbers.add(x.hasTile(cell) ? (long) x.tileAt(cell) : -1L);
             numbers.add((long) x.matchesOf(cell));
             numbers.add(x.isRing(cell) ? 1L : 0L);
         }
-        for (int tile = 0; tile < x.tiles(); tile++) {
+        for (int tile = 0; tile < heads[2]; tile++) {
             numbers.add(x.isPlaced(tile) ? (long) x.turnOf(tile) : -1L);
             numbers.add((long) x.waysOf(tile));
             numbers.add(x.isLeftover(tile) ? 1L : 0L);
