@@ -39,11 +39,49 @@ public final class FaceTest {
         "double meanMatch()", "long digest()",
     };
 
+    private static final String[] SECTIONS = {
+        "Ahead of the calls `feed`, `trim`, `teach`, `errorAt` the interface says: ---- the language.",
+        "Ahead of the calls `columns`, `rows`, `tiles`, `rounds`, `placedTiles`, `matches`, `points`, `rings`, `groups`"
+                + " the interface says: ---- the game.",
+        "Ahead of the calls `hasTile`, `tileAt`, `numberAt`, `matchesOf`, `isRing` the interface says: ---- cells.",
+        "Ahead of the calls `isPlaced`, `cellOf`, `turnOf`, `fits`, `edgeAgainst`, `waysOf`, `isLeftover`,"
+                + " `looksToProve` the interface says: ---- tiles.",
+        "Ahead of the calls `putTile`, `takeTile`, `fitTile` the interface says: ---- by hand.",
+        "Ahead of the calls `playRounds`, `pointsAfter`, `roundsUntilRing`, `bestCell`, `bestTurn`, `bestTile`,"
+                + " `meanMatch`, `digest` the interface says: ---- rounds and what would be.",
+    };
+
     public static void main(String[] args) throws IOException {
         face();
         members();
-        source(Files.readString(Path.of("src/main/java/RingDomino.java"), StandardCharsets.UTF_8));
+        String source = Files.readString(Path.of("src/main/java/RingDomino.java"), StandardCharsets.UTF_8);
+        source(source);
+        sections(source);
         Check.close("FaceTest");
+    }
+
+    /** The source bears the document's headings, and each call stands below its own one, in the document's order. */
+    private static void sections(String source) {
+        int at = 0;
+        int calls = 0;
+        for (String section : SECTIONS) {
+            Check.sentence(section);
+            String heading = section.substring(section.indexOf("----"), section.length() - 1);
+            at = behind(source, at, "// " + heading + "\n");
+            Matcher call = Pattern.compile("`(\\w+)`").matcher(section);
+            while (call.find()) {
+                at = behind(source, at, "public \\w+ " + call.group(1) + "\\(");
+                calls++;
+            }
+        }
+        Check.equal("calls below a heading", calls, FACE.length);
+    }
+
+    private static int behind(String source, int at, String words) {
+        Matcher found = Pattern.compile(words).matcher(source);
+        boolean good = found.find(at);
+        Check.holds("the next of the source's calls and headings is " + words.trim(), good);
+        return good ? found.end() : at;
     }
 
     private static String names(Class<?>[] types) {
